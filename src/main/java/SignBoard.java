@@ -35,7 +35,6 @@ public final class SignBoard {
     private final Gauge gauge;
     private final Laying laying;
     private final Press press;
-    private final Easel easel;
     private final History history;
     private final ShopReader shopReader;
     private final LawReader lawReader;
@@ -54,7 +53,6 @@ public final class SignBoard {
         gauge = new Gauge(shop, law, work);
         laying = new Laying(shop, gauge);
         press = new Press(shop, work, gauge);
-        easel = new Easel(shop, work);
         history = new History();
         shopReader = new ShopReader(tape);
         lawReader = new LawReader(tape);
@@ -89,7 +87,8 @@ public final class SignBoard {
     }
 
     public int shop() throws IllegalArgumentException, UnsupportedOperationException {
-        boolean right = shopReader.reads(shop);
+        shopReader.beginFrom(shop);
+        boolean right = shopReader.readsText();
         useUp(right);
         if (!right) {
             throw new IllegalArgumentException("the text of the shop is wrong");
@@ -107,7 +106,8 @@ public final class SignBoard {
     }
 
     public int law() throws IllegalArgumentException {
-        boolean right = lawReader.reads();
+        lawReader.draft.begin();
+        boolean right = lawReader.readsText();
         useUp(right);
         if (!right) {
             throw new IllegalArgumentException("the text of the law is wrong");
@@ -429,7 +429,7 @@ public final class SignBoard {
     public boolean read(int yards, int light) throws IllegalArgumentException {
         needYards(yards);
         needLight(light);
-        return gauge.readWith(yards, light, work.shadow);
+        return gauge.isRead(yards, light, gauge.tightestSpace(work.shadow));
     }
 
     public int far(int light) throws IllegalArgumentException {
@@ -454,7 +454,7 @@ public final class SignBoard {
         needYards(yards);
         needLight(light);
         for (int shadow = MOST_SHADOW; shadow >= 0; shadow--) {
-            if (gauge.fitsWith(shadow) && gauge.readWith(yards, light, shadow)) {
+            if (gauge.fitsWith(shadow) && gauge.isRead(yards, light, gauge.tightestSpace(shadow))) {
                 return shadow;
             }
         }
@@ -506,11 +506,11 @@ public final class SignBoard {
     // ---- painting, writers, lookers
 
     public int order(int k) {
-        return easel.orderOf(k);
+        return work.orderOf(k, shop.letters);
     }
 
     public int brush() {
-        return easel.fewestDays();
+        return work.fewestDays(shop.letters);
     }
 
     public int wrote() throws IllegalArgumentException {
@@ -797,6 +797,47 @@ public final class SignBoard {
         }
     }
 
+    /** Reads a text line by line; where it is wrong, the tape stands still at the wrong thing. */
+    private abstract static class TextReader {
+        final Tape tape;
+        final int mostLines;
+
+        TextReader(Tape tape, int mostLines) {
+            this.tape = tape;
+            this.mostLines = mostLines;
+        }
+
+        abstract boolean readsLine();
+
+        boolean readsText() {
+            tape.rewind();
+            if (tape.kind == Tape.AT_END) {
+                return true;
+            }
+            for (int line = 0; line < mostLines; line++) {
+                if (!readsLine()) {
+                    return false;
+                }
+                if (tape.kind == Tape.AT_END) {
+                    return true;
+                }
+                if (!tape.takesMark(';')) {
+                    return false;
+                }
+            }
+            return false;
+        }
+
+        /** The number, and the tape stands behind it; NONE, and the tape stands still, if it is wrong. */
+        int readNumber(int least, int most) {
+            int number = tape.numberWithin(least, most);
+            if (number != NONE) {
+                tape.step();
+            }
+            return number;
+        }
+    }
+
     /** What the texts of the shop tell. */
     private static final class Shop {
         int signs;
@@ -873,41 +914,24 @@ public final class SignBoard {
         }
     }
 
-    /** Reads a text of the shop into a draft; where it is wrong, the tape stands at the wrong thing. */
-    private static final class ShopReader {
+    /** Reads a text of the shop into a draft. */
+    private static final class ShopReader extends TextReader {
         static final int MOST_LINES = 14;
 
-        final Tape tape;
         final Shop draft;
         boolean newWord;
 
         ShopReader(Tape tape) {
-            this.tape = tape;
+            super(tape, MOST_LINES);
             draft = new Shop();
         }
 
-        boolean reads(Shop shop) {
+        void beginFrom(Shop shop) {
             draft.copyFrom(shop);
             newWord = false;
-            tape.rewind();
-            if (tape.kind == Tape.AT_END) {
-                return true;
-            }
-            for (int line = 0; line < MOST_LINES; line++) {
-                if (!readsLine()) {
-                    return false;
-                }
-                if (tape.kind == Tape.AT_END) {
-                    return true;
-                }
-                if (!tape.takesMark(';')) {
-                    return false;
-                }
-            }
-            return false;
         }
 
-        private boolean readsLine() {
+        boolean readsLine() {
             if (tape.isWord("sign")) {
                 return readsSign();
             }
@@ -929,15 +953,6 @@ public final class SignBoard {
                 return draft.contrast != NONE;
             }
             return tape.takesWord("word") && readsWord();
-        }
-
-        /** The number, and the tape stands behind it; NONE, and the tape stands still, if it is wrong. */
-        private int readNumber(int least, int most) {
-            int number = tape.numberWithin(least, most);
-            if (number != NONE) {
-                tape.step();
-            }
-            return number;
         }
 
         private boolean readsSign() {
@@ -1135,49 +1150,27 @@ public final class SignBoard {
         }
     }
 
-    /** Reads a text of the law into a draft; where it is wrong, the tape stands at the wrong thing. */
-    private static final class LawReader {
+    /** Reads a text of the law into a draft. */
+    private static final class LawReader extends TextReader {
         static final int DEEPEST = 6;
 
-        final Tape tape;
         final Law draft;
 
         LawReader(Tape tape) {
-            this.tape = tape;
+            super(tape, Law.MOST_LINES);
             draft = new Law();
         }
 
-        boolean reads() {
-            draft.begin();
-            tape.rewind();
-            if (tape.kind == Tape.AT_END) {
-                return true;
-            }
-            for (int line = 0; line < Law.MOST_LINES; line++) {
-                if (!readsLine()) {
-                    return false;
-                }
-                if (tape.kind == Tape.AT_END) {
-                    return true;
-                }
-                if (!tape.takesMark(';')) {
-                    return false;
-                }
-            }
-            return false;
-        }
-
-        private boolean readsLine() {
+        boolean readsLine() {
             boolean fade = tape.isWord("fade");
             if (!fade && !tape.isWord("weigh")) {
                 return false;
             }
             tape.step();
-            int amount = tape.numberWithin(0, fade ? 99 : 9);
+            int amount = readNumber(0, fade ? 99 : 9);
             if (amount == NONE) {
                 return false;
             }
-            tape.step();
             if (tape.takesWord("if") && !readsCondition(0)) {
                 return false;
             }
@@ -1309,6 +1302,9 @@ public final class SignBoard {
         static final int LOG_WRITER = 2;
         static final int LOG_CHANGE = 3;
         static final int FIRST_DISTANCE = 3;
+        static final int MOST_DAYS = 4 * MOST_LETTERS;
+        static final int MOST_LEFT = 12;
+        static final int TOO_MANY_LEFT = -3;
 
         final int[] distances;
         final int[] squeezes;
@@ -1354,7 +1350,7 @@ public final class SignBoard {
         }
 
         int paintDay(int writer, int slipRate, int letters) {
-            int letter = Easel.nextLetter(painted, wet, letters);
+            int letter = nextLetter(painted, wet, letters);
             if (letter != NONE) {
                 painted |= 1 << letter;
                 paintedOn[letter] = days;
@@ -1397,6 +1393,67 @@ public final class SignBoard {
         int logged(int ago, int what) {
             int row = Math.floorMod(logNext - 1 - ago, LOG_ROOM);
             return log[row * LOG_FIELDS + what];
+        }
+
+        private static int nextLetter(int painted, int wet, int letters) {
+            int shut = painted | beside(wet);
+            for (int letter = 0; letter < letters; letter++) {
+                if ((shut >> letter & 1) == 0) {
+                    return letter;
+                }
+            }
+            return NONE;
+        }
+
+        private static int beside(int letter) {
+            return letter == NONE ? 0 : (1 << letter << 1) | (1 << letter >> 1);
+        }
+
+        /** The letter of the wanted day from now on, or, if that is NONE, how many days there are. */
+        int orderOf(int wanted, int letters) {
+            int all = (1 << letters) - 1;
+            int paintedThen = painted;
+            int wetThen = wet;
+            int found = NONE;
+            int day = 0;
+            while (paintedThen != all && day < MOST_DAYS) {
+                wetThen = nextLetter(paintedThen, wetThen, letters);
+                if (wetThen != NONE) {
+                    paintedThen |= 1 << wetThen;
+                }
+                if (day == wanted) {
+                    found = wetThen;
+                }
+                day++;
+            }
+            return wanted == NONE ? day : found;
+        }
+
+        int fewestDays(int letters) {
+            int left = ((1 << letters) - 1) & ~painted;
+            int count = Integer.bitCount(left);
+            if (count > MOST_LEFT) {
+                return TOO_MANY_LEFT;
+            }
+            return needsPause(left, count) ? count + 1 : count;
+        }
+
+        /**
+         * One day without a letter is always enough, and needed only by few letters: one or two that are
+         * all beside the wet one, two neighbours, three in a row. (BrushTest holds this against a search.)
+         */
+        private boolean needsPause(int left, int count) {
+            boolean allBesideWet = (left & ~beside(wet)) == 0;
+            switch (count) {
+                case 1:
+                    return allBesideWet;
+                case 2:
+                    return allBesideWet || (left & left << 1) != 0;
+                case 3:
+                    return (left & left << 1 & left << 2) != 0;
+                default:
+                    return false;
+            }
         }
     }
 
@@ -1671,19 +1728,23 @@ public final class SignBoard {
             return Math.max(0, shop.contrast - fadingAt(yards, light));
         }
 
-        boolean readWith(int yards, int light, int shadow) {
-            int clear = clearness(yards, light);
+        /** The least space of all gaps; without a gap so much that any clearness at all is enough. */
+        int tightestSpace(int shadow) {
+            int tightest = MOST_YARDS;
             for (int gap = 0; gap < shop.gapCount(); gap++) {
-                if (clear * leastSpace(gap, work.distances[gap], shadow) < yards) {
-                    return false;
-                }
+                tightest = Math.min(tightest, leastSpace(gap, work.distances[gap], shadow));
             }
-            return clear > 0;
+            return tightest;
+        }
+
+        boolean isRead(int yards, int light, int tightest) {
+            return clearness(yards, light) * tightest >= yards;
         }
 
         int farthestBy(int light) {
+            int tightest = tightestSpace(work.shadow);
             int yards = 0;
-            while (yards < MOST_YARDS && readWith(yards + 1, light, work.shadow)) {
+            while (yards < MOST_YARDS && isRead(yards + 1, light, tightest)) {
                 yards++;
             }
             return yards;
@@ -1693,6 +1754,7 @@ public final class SignBoard {
     /** The distances by which the word just fills the board and its whites are the least off. */
     private static final class Laying {
         static final int HAIRS = 120 + INCH + 1;
+        static final int TOO_FAR_OFF = 1000000000;
 
         final Shop shop;
         final Gauge gauge;
@@ -1733,7 +1795,7 @@ public final class SignBoard {
             for (int given = from; given <= to; given++) {
                 int behind = (gap + 1) * HAIRS + given;
                 int most = Math.min(WIDEST_GAP, given);
-                int off = Integer.MAX_VALUE;
+                int off = TOO_FAR_OFF;
                 for (int distance = Math.max(0, given - mostBehind); distance <= most; distance++) {
                     int now = least[behind - distance] + costs[distance];
                     if (now < off) {
@@ -1846,81 +1908,6 @@ public final class SignBoard {
                 gain = Math.max(0, gain - by);
             }
             return bits;
-        }
-    }
-
-    /** In which order the letters are painted. */
-    private static final class Easel {
-        static final int MOST_DAYS = 4 * MOST_LETTERS;
-        static final int MOST_LEFT = 12;
-        static final int TOO_MANY = -3;
-
-        final Shop shop;
-        final Work work;
-
-        Easel(Shop shop, Work work) {
-            this.shop = shop;
-            this.work = work;
-        }
-
-        static int nextLetter(int painted, int wet, int letters) {
-            int shut = painted | beside(wet);
-            for (int letter = 0; letter < letters; letter++) {
-                if ((shut >> letter & 1) == 0) {
-                    return letter;
-                }
-            }
-            return NONE;
-        }
-
-        static int beside(int letter) {
-            return letter == NONE ? 0 : (1 << letter << 1) | (1 << letter >> 1);
-        }
-
-        int orderOf(int wanted) {
-            int all = (1 << shop.letters) - 1;
-            int painted = work.painted;
-            int wet = work.wet;
-            int found = NONE;
-            int days = 0;
-            while (painted != all && days < MOST_DAYS) {
-                wet = nextLetter(painted, wet, shop.letters);
-                if (wet != NONE) {
-                    painted |= 1 << wet;
-                }
-                if (days == wanted) {
-                    found = wet;
-                }
-                days++;
-            }
-            return wanted == NONE ? days : found;
-        }
-
-        int fewestDays() {
-            int left = ((1 << shop.letters) - 1) & ~work.painted;
-            int count = Integer.bitCount(left);
-            if (count > MOST_LEFT) {
-                return TOO_MANY;
-            }
-            return needsPause(left, count) ? count + 1 : count;
-        }
-
-        /**
-         * One day without a letter is always enough, and needed only by few letters: one or two that are
-         * all beside the wet one, two neighbours, three in a row. (BrushTest holds this against a search.)
-         */
-        private boolean needsPause(int left, int count) {
-            boolean allBesideWet = (left & ~beside(work.wet)) == 0;
-            switch (count) {
-                case 1:
-                    return allBesideWet;
-                case 2:
-                    return allBesideWet || (left & left << 1) != 0;
-                case 3:
-                    return (left & left << 1 & left << 2) != 0;
-                default:
-                    return false;
-            }
         }
     }
 }
