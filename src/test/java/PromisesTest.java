@@ -481,6 +481,12 @@ public final class PromisesTest {
         Check.due("width 1 stays", thin.squeeze(0, false), 20);
         Check.due("both by one", thin.squeeze(0, true), 3);
         Check.due("no more", thin.squeeze(1, false), NONE);
+        SignBoard all = Check.board("sign open wide 11 left 00000 right 00000;board 120 margin 4;word" + " 0".repeat(14));
+        Check.due("as many as can be lack", all.lacks(0), 42);
+        Check.due("all 14 by 3", all.squeeze(0, false), 14 * 9 * 55);
+        Check.due("all 14", all.squeeze(0, true), (1 << 14) - 1);
+        all.shadow(1);
+        Check.due("one more than can be lacks", all.squeeze(0, false), NONE);
         SignBoard d = board();
         Check.due("dropped(35)", d.dropped(35), 0);
         Check.due("dropped(36)", d.dropped(36), 1);
@@ -684,6 +690,13 @@ public final class PromisesTest {
         Check.due("likely(0)", b.likely(0), 3);
         Check.due("the tape is used up", b.end(1), false);
         Check.due("likely of none", b.likely(0), 0);
+        int[] many = new int[200];
+        many[199] = 100;
+        Check.whites(b, many);
+        Check.due("likely of a full tape", b.likely(0), 1);
+        many[199] = 65535;
+        Check.whites(b, many);
+        Check.due("wrote of a full tape", b.wrote(), 0);
         Check.tape(b, "abc");
         Check.dueThrow("likely(0) of three bytes", ARGUMENT, () -> b.likely(0));
         Check.due("the tape is used up", b.end(1), false);

@@ -120,6 +120,12 @@ public final class TextsTest {
         Check.wrongShop(b, ";", 0);
         Check.wrongShop(b, "  x", 2);
         Check.wrongShop(b, "Cap 5", 0);
+        Check.wrongShop(b, "capz 5", 0);
+        Check.wrongShop(b, "acap 5", 0);
+        Check.wrongShop(b, "cap{ 5", 3);
+        Check.wrongShop(b, "cap` 5", 3);
+        Check.wrongShop(b, "cap /5", 4);
+        Check.wrongShop(b, "cap 5:", 5);
         Check.wrongShop(b, "cap", 3);
         Check.wrongShop(b, "cap -5", 4);
         Check.wrongShop(b, "cap 100", 4);
