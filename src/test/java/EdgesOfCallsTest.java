@@ -28,6 +28,7 @@ public final class EdgesOfCallsTest {
         letters();
         gaps();
         acts();
+        squeezedByWidth();
         whites();
         whitesOfAGap();
         looks();
@@ -195,27 +196,59 @@ public final class EdgesOfCallsTest {
         }
     }
 
+    // ---- promise 14: not below WIDTH 1
+
+    private static SignBoard wide(int width) {
+        SignBoard b = Check.board("sign open wide " + width + " left 00000 right 00000;word 0 0");
+        b.shift(0, 9);
+        Check.tape(b, "cap 7");
+        return b;
+    }
+
+    private static void squeezedByWidth() {
+        for (int width : new int[] {2, 3, 4, 5, 12}) {
+            int most = Math.min(3, width - 1);
+            for (int letter = 0; letter < 2; letter++) {
+                int squeezed = letter;
+                for (int hairs = most + 1; hairs <= 5; hairs++) {
+                    int by = hairs;
+                    Twins.refuses("squeezed by " + by + " of width " + width, Twins.ARGUMENT, () -> wide(width),
+                            b -> b.squeezed(squeezed, by));
+                }
+                SignBoard b = wide(width);
+                int was = 0;
+                for (int hairs = 0; hairs <= most; hairs++) {
+                    Check.due("squeezed by " + hairs + " of width " + width, b.squeezed(letter, hairs), was);
+                    Check.due("by how many", b.letter(letter, 1), hairs);
+                    Check.due("the width", b.letter(letter, 2), width - hairs);
+                    Check.due("the word", b.count(12), 2 + 2 * width + 9 - hairs);
+                    was = hairs;
+                }
+                // what it was does not count: the sign's width does
+                Check.due("squeezed by less", b.squeezed(letter, 1), most);
+                Check.due("squeezed by as much", b.squeezed(letter, most), 1);
+                Check.dueThrow("squeezed by one more", Twins.ARGUMENT, () -> b.squeezed(squeezed, most + 1));
+            }
+        }
+    }
+
     // ---- promises 16, 19, 21 to 27, 42: a WHITE told
 
+    private static void told(String name, Two call) {
+        numbers(name, 0, 2000, call);
+        asks(name, 0, 2000, call);
+    }
+
     private static void whites() {
-        numbers("off", 0, 2000, (b, n) -> b.off(n));
-        numbers("laid", 0, 2000, (b, n) -> b.laid(n, NONE));
-        numbers("laid 0", 0, 2000, (b, n) -> b.laid(n, 0));
-        numbers("cannot", 0, 2000, (b, n) -> b.cannot(n));
-        numbers("lacks", 0, 2000, (b, n) -> b.lacks(n));
-        numbers("squeeze", 0, 2000, (b, n) -> b.squeeze(n, true));
-        numbers("squeeze", 0, 2000, (b, n) -> b.squeeze(n, false));
-        numbers("dropped", 0, 2000, (b, n) -> b.dropped(n));
-        numbers("inch", 0, 2000, (b, n) -> b.inch(n));
-        asks("off", 0, 2000, (b, n) -> b.off(n));
-        asks("laid", 0, 2000, (b, n) -> b.laid(n, NONE));
-        asks("laid 0", 0, 2000, (b, n) -> b.laid(n, 0));
-        asks("cannot", 0, 2000, (b, n) -> b.cannot(n));
-        asks("lacks", 0, 2000, (b, n) -> b.lacks(n));
-        asks("squeeze", 0, 2000, (b, n) -> b.squeeze(n, true));
-        asks("squeeze", 0, 2000, (b, n) -> b.squeeze(n, false));
-        asks("dropped", 0, 2000, (b, n) -> b.dropped(n));
-        asks("inch", 0, 2000, (b, n) -> b.inch(n));
+        told("off", (b, n) -> b.off(n));
+        told("laid", (b, n) -> b.laid(n, NONE));
+        told("laid 0", (b, n) -> b.laid(n, 0));
+        told("cannot", (b, n) -> b.cannot(n));
+        told("lacks", (b, n) -> b.lacks(n));
+        told("squeeze, which", (b, n) -> b.squeeze(n, true));
+        told("squeeze", (b, n) -> b.squeeze(n, false));
+        told("dropped", (b, n) -> b.dropped(n));
+        told("inch", (b, n) -> b.inch(n));
         // the k-th distance: beyond them it is none, and no exception
         for (int k : new int[] {Integer.MIN_VALUE, -2, GAPS, GAPS + 1, 13, 14, Integer.MAX_VALUE}) {
             Twins.leaves("laid " + k, NONE, Twins::rich, b -> b.laid(30, k));

@@ -10,6 +10,7 @@ public final class EdgesOfLooksTest {
         inks();
         spaceAndCap();
         spaceAndShadow();
+        leastSpaceOfEachRow();
         placing();
         fitting();
         fewGaps();
@@ -19,16 +20,21 @@ public final class EdgesOfLooksTest {
         laidOfOneLetter();
         laidIsTheFirst();
         laysAtItsEnds();
+        laysAllDistances();
         bestAtItsEnds();
+        bestOfAll();
         nearestAtItsEnds();
         cannotAtItsEnds();
         lackingAtItsEnds();
         lackingIsTheLeastDistance();
         squeezeAtItsEnds();
         squeezeByWidth();
+        squeezeOfAll();
         squeezeIsTheFirst();
         droppedAtItsEnds();
         middleAtItsEnds();
+        middleOfEachRow();
+        middleFarOff();
         readAtItsEnds();
         readWithoutGaps();
         farAtItsEnds();
@@ -102,6 +108,18 @@ public final class EdgesOfLooksTest {
                 Check.due("the right side is beside it", b.row(0, 3, false), due + 4);
                 Check.due("white of " + distance + " by shadow " + shadow, b.gap(0, 1), 5 * due + 7);
             }
+        }
+    }
+
+    private static void leastSpaceOfEachRow() {
+        for (int row = 0; row < 5; row++) {
+            String right = "5".repeat(row) + "2" + "5".repeat(4 - row);
+            SignBoard b = Check.board("sign open wide 9 left 00000 right " + right + ";word 0 0;colour 1;cap 99");
+            Check.due("the least space is in row " + row, b.gap(0, 2), 5);
+            Check.due("white", b.gap(0, 1), 4 * 8 + 5);
+            Check.due("far", b.far(0), 5);
+            Check.due("runs", b.runs(6, 0), 1);
+            Check.due("bears at 4", b.bears(4, 0), 1);
         }
     }
 
@@ -191,6 +209,14 @@ public final class EdgesOfLooksTest {
                 Check.due("uneven: most " + most, b.uneven(), most == least ? 0 : 135);
             }
         }
+        // seen straight, 30 in the last gap is 30
+        SignBoard last = bars(14, "cap 99;writer white 9 slip 0;looker 135;looker 136");
+        last.shift(12, 30);
+        Check.due("uneven by the last", last.uneven(), 135);
+        Check.due("lookers", last.lookers(false), 1);
+        Check.due("trial", last.trial(0, 0, false), 135);
+        Check.due("span", last.span(0, 0, true), 135);
+        Check.due("from: seen as 4, then as 1", last.from(), 8);
         SignBoard b = bars(3, "");
         Check.due("uneven of two alike", b.uneven(), 0);
         b.shift(1, 4);
@@ -305,6 +331,27 @@ public final class EdgesOfLooksTest {
         Check.due("also acts that change nothing", b.count(15), 2);
     }
 
+    private static void laysAllDistances() {
+        for (int letters : new int[] {2, 3, 4, 14}) {
+            for (int white : new int[] {0, 25, 60, 2000}) {
+                SignBoard b = free(letters, 30, "cap 11");
+                int off = b.laid(white, NONE);
+                int[] distances = new int[letters - 1];
+                int sum = 0;
+                for (int gap = 0; gap < letters - 1; gap++) {
+                    distances[gap] = b.laid(white, gap);
+                    sum += distances[gap];
+                }
+                Check.due("30 hairs for " + letters, sum, 30);
+                Check.due("lays(" + white + ") of " + letters, b.lays(white), off);
+                for (int gap = 0; gap < letters - 1; gap++) {
+                    Check.due("distance " + gap, b.gap(gap, 0), distances[gap]);
+                }
+                Check.due("off then", b.off(white), off);
+            }
+        }
+    }
+
     // ---- promise 22
 
     private static void bestAtItsEnds() {
@@ -331,6 +378,49 @@ public final class EdgesOfLooksTest {
         Check.due("best of no weight", b.best(false), 0);
         Check.due("best of no weight, off", b.best(true), 0);
         Check.due("best leaves the distance", b.gap(0, 0), 3);
+    }
+
+    /** Each WHITE from 0 to 120 is tried: what LAID tells of each, and of several the least. */
+    private static void bestOfAll() {
+        String signs = "sign straight wide 4 left 00000 right 00000;sign slant wide 6 left 21100 right 21100;"
+                + "sign open wide 4 left 00000 right 33333;sign round wide 5 left 10001 right 10001";
+        String[] words = {"0 1 2 0", "2 2 1", "3 1 3 1 3", "2 2 2 2 2 2 2", "1 3"};
+        String[] laws = {"weigh 1", "weigh 1;weigh 2 if row > 2", "weigh 3 if gap > 4;weigh 1", "weigh 4 if left + right > 2",
+            "weigh 1;weigh 5 if gap < 4 and not round", "weigh 9 if gap > 7;weigh 1 if gap < 3",
+            "weigh 4 if gap > 2 and gap < 6"};
+        for (int word = 0; word < words.length; word++) {
+            for (String law : laws) {
+                for (int hairs = 26; hairs <= 50; hairs += 4) {
+                    SignBoard b = Check.board(signs, "word " + words[word] + ";board " + hairs + " margin 2;cap 20");
+                    Check.law(b, law);
+                    bestOfAll(b, words[word] + " on " + hairs + " by " + law);
+                }
+            }
+        }
+        SignBoard one = free(2, 6, "cap 99");
+        Check.law(one, "weigh 1 if row < 1 and gap + 5 < 12;weigh 0");
+        Check.due("best of 6", one.best(false), 6);
+        Check.shop(one, "board 10 margin 2");
+        Check.due("best of 2", one.best(false), 2);
+        one.shadow(1);
+        Check.due("best of 0, with shadow", one.best(false), 0);
+        one.squeezed(0, 1);
+        Check.due("best of 1, with shadow", one.best(false), 1);
+        Check.due("best of 1, off", one.best(true), 0);
+    }
+
+    private static void bestOfAll(SignBoard b, String what) {
+        int best = NONE;
+        int least = NONE;
+        for (int white = 0; white <= 120; white++) {
+            int off = b.laid(white, NONE);
+            if (off != NONE && (least == NONE || off < least)) {
+                best = white;
+                least = off;
+            }
+        }
+        Check.due("best of " + what, b.best(false), best);
+        Check.due("best of " + what + ", off", b.best(true), least);
     }
 
     // ---- promise 23
@@ -476,6 +566,27 @@ public final class EdgesOfLooksTest {
         }
     }
 
+    /** 14 letters, each by 3: 42 hairs are the most. */
+    private static void squeezeOfAll() {
+        for (int lacks = 38; lacks <= 47; lacks++) {
+            SignBoard b = Check.board("sign open wide 11 left 00000 right 00000;word" + " 0".repeat(14)
+                    + ";board 116 margin 0");
+            b.shadow(lacks - 38);
+            Check.due("lacks", b.lacks(0), lacks);
+            // what is less than 42 is left of the first letters: by 2 instead of 3 first
+            Check.due("squeeze by " + lacks, b.squeeze(0, false), lacks > 42 ? NONE : 55 * (14 * 9 - 5 * (42 - lacks)));
+            Check.due("which by " + lacks, b.squeeze(0, true), lacks > 42 ? NONE : (1 << 14) - 1);
+        }
+        SignBoard b = bars(14, "");
+        Check.due("far too short", b.squeeze(2000, false), NONE);
+        Check.due("far too short, which", b.squeeze(2000, true), NONE);
+        // as many as 14 bars can be squeezed by: one each
+        SignBoard thin = bars(14, "board 14 margin 0");
+        Check.due("bars by 1 each", thin.squeeze(0, false), 140);
+        thin.shadow(1);
+        Check.due("bars by no more", thin.squeeze(0, false), NONE);
+    }
+
     private static void squeezeIsTheFirst() {
         // ink 40, 10, 40, 10: the thin ones first, and of two alike the latter
         SignBoard b = Check.board("sign open wide 8 left 00000 right 00000;sign open wide 8 left 33333 right 33333;"
@@ -552,6 +663,41 @@ public final class EdgesOfLooksTest {
         b.squeezed(0, 2);
         Check.due("squeezed till no ink is left", b.middle(false), 0);
         Check.due("and askew", b.middle(true), -5);
+    }
+
+    /** 12 hairs of ink in one row, 3 in each other one: without the one row the middle would be ahead. */
+    private static void middleOfEachRow() {
+        for (int row = 0; row < 5; row++) {
+            String right = "9".repeat(row) + "0" + "9".repeat(4 - row);
+            SignBoard b = Check.board("sign open wide 12 left 00000 right " + right + ";word 0;board 20 margin 0");
+            Check.due("the middle with row " + row, b.middle(false), 3);
+            String left = "9".repeat(row) + "0" + "9".repeat(4 - row);
+            SignBoard c = Check.board("sign open wide 12 left " + left + " right 00000;word 0;board 20 margin 0");
+            Check.due("the middle with row " + row + " from the left", c.middle(false), 10);
+        }
+    }
+
+    private static void middleFarOff() {
+        for (int letters = 1; letters <= 14; letters++) {
+            SignBoard b = Check.board("sign open wide 12 left 00000 right 00000;board 120 margin 9;word" + " 0".repeat(letters));
+            for (int gap = 0; gap + 1 < letters; gap++) {
+                b.shift(gap, 30);
+            }
+            int behind = letters % 2 == 0 ? letters / 2 * 42 - 30 : letters / 2 * 42 + 6;
+            Check.due("the middle of " + letters + " far apart", b.middle(false), 9 + behind);
+            Check.due("askew", b.middle(true), 9 + behind - 60);
+        }
+        // all but one letter are squeezed till they have no ink
+        for (int inked = 0; inked < 14; inked++) {
+            SignBoard b = Check.board("sign open wide 4 left 00000 right 33333;board 120 margin 0;word" + " 0".repeat(14));
+            for (int letter = 0; letter < 14; letter++) {
+                b.squeezed(letter, letter == inked ? 0 : 3);
+                if (letter < 13) {
+                    b.shift(letter, 30 - letter);
+                }
+            }
+            Check.due("ink in letter " + inked + " alone", b.middle(false), b.letter(inked, 3) + 1);
+        }
     }
 
     // ---- promises 29 to 31
@@ -774,7 +920,8 @@ public final class EdgesOfLooksTest {
 
     /** Two gaps, the first of white 0, so that the second's white is how uneven it is; 0 to 300. */
     private static SignBoard uneven(int uneven, String more) {
-        SignBoard b = Check.board(BAR + ";sign open wide 12 left 0" + uneven % 10 + "000 right 00000;word 0 0 1;cap 99;" + more);
+        SignBoard b = Check.board(BAR + ";sign open wide 12 left 0" + uneven % 10 + "000 right 00000;word 0 0 1",
+                "cap 99;" + more);
         Check.law(b, "weigh 9 if row < 1;weigh 1 if row > 0 and row < 2");
         b.shift(0, 0);
         b.shift(1, uneven / 10);

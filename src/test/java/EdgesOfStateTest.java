@@ -22,6 +22,9 @@ public final class EdgesOfStateTest {
         wrongTextsDoNot();
         seedIsNoAct();
         undoLeavesTapeFaultAndImage();
+        whitesBehindUndo();
+        logBehindUndo();
+        fullBoard();
         imageOfNone();
         imageOfAll();
         oneImage();
@@ -265,6 +268,139 @@ public final class EdgesOfStateTest {
         Check.due("the distance of the image", b.gap(0, 0), 8);
     }
 
+    private static void whitesBehindUndo() {
+        SignBoard b = board();
+        int white = b.gap(0, 1);
+        b.shadow(2);
+        Check.due("white with shadow", b.gap(0, 1), white - 10);
+        b.undo();
+        Check.due("white behind undo", b.gap(0, 1), white);
+        b.shadow(3);
+        b.image();
+        b.shadow(0);
+        Check.due("white without shadow", b.gap(0, 1), white);
+        b.back();
+        Check.due("white behind back", b.gap(0, 1), white - 15);
+    }
+
+    /** So many rows of the log, of writers 0, 1, 0, ..: words of 10 letters are painted without a day between. */
+    private static SignBoard logged(int rows) {
+        String word = "word 0 0 0 0 0 0 0 0 0 0";
+        SignBoard b = Check.board(BAR + ";writer white 9 slip 100;writer white 9 slip 0;" + word);
+        for (int row = 0; row < rows; row++) {
+            if (row % 10 == 0 && row > 0) {
+                Check.shop(b, word);
+            }
+            b.paint(row % 2);
+        }
+        return b;
+    }
+
+    /** A row too many takes the place of the earliest: undone, or gone back, that is there again. */
+    private static void logBehindUndo() {
+        for (int rows : new int[] {61, 62, 75, 76, 77, 95, 117, 118, 119}) {
+            for (boolean image : new boolean[] {false, true}) {
+                SignBoard b = logged(rows);
+                String of = " of " + rows + " rows";
+                Check.due("the earliest" + of, b.log(59, 0), rows - 60);
+                b.image();
+                b.paint(1 - rows % 2);
+                Check.due("the earliest is gone" + of, b.log(59, 0), rows - 59);
+                Check.due("gone back, or undone" + of, image ? b.back() : b.undo(), true);
+                Check.due("the earliest is there again" + of, b.log(59, 0), rows - 60);
+                Check.due("its writer" + of, b.log(59, 2), rows % 2);
+                Check.due("slips" + of, b.slips(1), 0);
+                Check.due("none beyond" + of, b.log(60, 0), -99);
+                Check.due("the latest" + of, b.log(0, 0), rows - 1);
+                Check.due("its writer" + of, b.log(0, 2), (rows - 1) % 2);
+            }
+        }
+    }
+
+    // ---- as much as there can be of all
+
+    /** Sign n: 12 wide, its last row's LEFT and RIGHT tell n. */
+    private static String signOf(int n) {
+        return "sign " + (n % 2 == 0 ? "round" : "open") + " wide " + (n == 11 ? 11 : 12) + " left 1000" + n % 10
+                + " right 0200" + n / 10;
+    }
+
+    private static SignBoard full() {
+        SignBoard b = new SignBoard();
+        for (int sign = 0; sign < 12; sign += 3) {
+            Check.shop(b, signOf(sign) + ";" + signOf(sign + 1) + ";" + signOf(sign + 2));
+        }
+        Check.shop(b, "writer white 1 slip 1;writer white 2 slip 2;writer white 3 slip 3;writer white 4 slip 4;"
+                + "writer white 5 slip 5;writer white 996 slip 100;word 0 1 2 3 4 5 6 7 8 9 10 11 0 11");
+        Check.shop(b, "looker 1;looker 2;looker 3;looker 4;looker 5;looker 6;looker 7;looker 200;board 119 margin 8;"
+                + "cap 98;colour 97");
+        Check.law(b, "fade 1;fade 2;fade 3;fade 4;fade 5;fade 6;fade 7;fade 8;fade 9;fade 10;"
+                + "fade 11;weigh 9 if row > 3 and not slant");
+        b.shift(12, 20);
+        b.squeezed(13, 3);
+        for (int day = 0; day < 15; day++) {
+            b.paint(5);
+        }
+        return b;
+    }
+
+    private static void fullIsThere(SignBoard b, String when) {
+        Check.due("sort of the 12th sign " + when, b.sign(11, 0), 3);
+        Check.due("width of the 12th sign " + when, b.sign(11, 1), 11);
+        Check.due("sides of the 12th sign " + when, 10 * b.side(11, 4, true) + b.side(11, 4, false), 11);
+        Check.due("sides of the 12th sign " + when, 10 * b.side(11, 0, false) + b.side(11, 1, true), 12);
+        for (int sign = 0; sign < 12; sign++) {
+            Check.due("sides of sign " + sign + " " + when, 10 * b.side(sign, 4, true) + b.side(sign, 4, false), sign);
+        }
+        for (int letter = 0; letter < 14; letter++) {
+            Check.due("letter " + letter + " " + when, b.letter(letter, 0), letter < 12 ? letter : letter == 12 ? 0 : 11);
+        }
+        Check.due("squeeze of the 14th letter " + when, b.letter(13, 1), 3);
+        Check.due("day of the 14th letter " + when, b.letter(13, 4), 14);
+        Check.due("days " + when, b.count(11), 15);
+        Check.due("slip of the last row " + when, Math.abs(b.log(0, 3)), 1);
+        Check.due("writer of the first row " + when, b.log(13, 2), 5);
+        Check.due("lookers " + when, b.count(8), 8);
+        Check.due("law " + when, b.fades(60, 9), 66);
+        Check.due("the last line of the law " + when, b.row(9, 4, true), 9);
+        Check.whites(b, 1006, 1007);
+        Check.due("the 6th writer's white " + when, b.likely(5), 1);
+        Check.due("the 6th writer's slip " + when, b.trial(5, 1, false), b.uneven());
+    }
+
+    private static void fullBoard() {
+        SignBoard b = full();
+        int last = b.gap(12, 0);
+        fullIsThere(b, "at first");
+        b.image();
+        b.shift(12, 5);
+        b.squeezed(13, 0);
+        b.paint(5);
+        b.undo();
+        b.undo();
+        b.undo();
+        Check.due("the last distance undone", b.gap(12, 0), last);
+        fullIsThere(b, "undone");
+        b.shift(12, 4);
+        b.squeezed(13, 1);
+        Check.law(b, "weigh 1");
+        Check.shop(b, "word 5 5;board 10 margin 1;cap 5;colour 5");
+        b.paint(0);
+        b.back();
+        Check.due("the last distance gone back to", b.gap(12, 0), last);
+        fullIsThere(b, "gone back to");
+        Check.shop(b, "cap 98");
+        Check.due("the last distance behind a text", b.gap(12, 0), last);
+        fullIsThere(b, "behind a text");
+        int uneven = b.uneven();
+        Check.due("it is uneven, but below 200", uneven > 6 && uneven < 200, true);
+        Check.due("lookers that see it as even", b.lookers(false), 1);
+        Check.shop(b, "word 11 11");
+        b.seed(1);
+        b.paint(5);
+        Check.due("the 6th writer always slips", b.slips(NONE) > 0 && b.log(0, 3) != 0, true);
+    }
+
     // ---- promises 49, 50
 
     private static void imageOfNone() {
@@ -295,7 +431,8 @@ public final class EdgesOfStateTest {
     private static void imageOfAll() {
         Act[] more = {b -> Check.shop(b, "sign slant wide 3 left 00000 right 00000;word 2 2 2 2"), b -> Check.shop(b, "cap 1"),
             b -> Check.shop(b, "board 99 margin 9;colour 1;looker 7;writer white 1 slip 1"), b -> Check.law(b, "weigh 3;fade 5"),
-            b -> b.shadow(5), b -> b.shift(1, 9), b -> b.squeezed(0, 1), b -> b.paint(0), EdgesOfStateTest::laysWhereItCan, b -> b.seed(77),
+            b -> b.shadow(5), b -> b.shift(1, 9), b -> b.squeezed(0, 1), b -> b.paint(0), EdgesOfStateTest::laysWhereItCan,
+            b -> b.seed(77),
             b -> {
                 b.paint(0);
                 b.paint(1);

@@ -538,6 +538,13 @@ public final class EdgesOfTextsTest {
         Check.due("the log stays", b.count(14), 2);
         Check.due("the shadow stays", b.count(5), 1);
         Check.due("the law stays", b.count(10), 4);
+        SignBoard wet = Check.board(SIGN + ";writer white 1 slip 0;word 0 0");
+        wet.paint(0);
+        wet.paint(0);
+        Check.due("the second letter is wet", wet.paint(0), 1);
+        Check.shop(wet, "word 0 0 0");
+        Check.due("nothing is wet: the first can be painted", wet.order(0), 0);
+        Check.due("and is", wet.paint(0), 0);
         SignBoard longer = Check.board(SIGN + ";word 0 0");
         longer.shift(0, 9);
         Check.shop(longer, "word" + " 0".repeat(14));
@@ -651,8 +658,10 @@ public final class EdgesOfTextsTest {
         int[] left = {9, 0, 0, 0, 1};
         int[] right = {0, 9, 0, 1, 0};
         for (int row = 0; row < 5; row++) {
-            Check.due("left of row " + row, weight("weigh 1 if left < " + (left[row] + 1) + " and left+1 > " + left[row], 0, row), 1);
-            Check.due("right of row " + row, weight("weigh 1 if right < " + (right[row] + 1) + " and right+1 > " + right[row], 0, row), 1);
+            String isLeft = "weigh 1 if left < " + (left[row] + 1) + " and left + 1 > " + left[row];
+            Check.due("left of row " + row, weight(isLeft, 0, row), 1);
+            String isRight = "weigh 1 if right < " + (right[row] + 1) + " and right + 1 > " + right[row];
+            Check.due("right of row " + row, weight(isRight, 0, row), 1);
             Check.due("left + right of row " + row, weight("weigh 1 if left + right > " + (left[row] + right[row]), 0, row), 0);
         }
         Check.due("light is 0", weight("weigh 1 if light < 1", 0, 0), 1);
@@ -663,6 +672,10 @@ public final class EdgesOfTextsTest {
         int[] sorts = {4, 4 + 1, 1 + 2, 2, 0};
         for (int gap = 0; gap < 5; gap++) {
             Check.due("sorts of gap " + gap, weight("weigh 1 if round;weigh 2 if slant;weigh 4 if open", gap, 0), sorts[gap]);
+            Check.due("what gap " + gap + " is not",
+                    weight("weigh 1 if not round;weigh 2 if not slant;weigh 4 if not open", gap, 0), 7 - sorts[gap]);
+            Check.due("sorts and more of gap " + gap,
+                    weight("weigh 1 if round and 0<1;weigh 2 if 0<1 and slant;weigh 4 if open and open", gap, 0), sorts[gap]);
         }
     }
 
@@ -684,7 +697,10 @@ public final class EdgesOfTextsTest {
         b.row(2, 4, true);
         b.gap(1, 1);
         Check.due("also behind a weight", b.fades(60, 9), 12);
-        Check.due("and weights go without light", b.row(1, 0, true), 9);
+        Check.law(b, "weigh 9 if light + yards < 1;fade 1 if light + yards > 0");
+        Check.due("light and yards", b.fades(60, 9), 1);
+        Check.due("weights go without them", b.row(1, 0, true), 9);
+        Check.due("whites, too", b.gap(1, 1), 9 * 5 * 3 - 9 * 5 + 9 * (2 + 1 + 1));
         Check.law(b, "weigh 9");
         Check.due("no fade line", b.fades(1, 0), 0);
         Check.due("no law", new SignBoard().fades(1, 0), 0);
