@@ -19,6 +19,7 @@ public final class EdgesOfLooksTest {
         laidAtItsEnds();
         laidOfOneLetter();
         laidIsTheFirst();
+        laidBehindALongerWord();
         laysAtItsEnds();
         laysAllDistances();
         bestAtItsEnds();
@@ -301,6 +302,20 @@ public final class EdgesOfLooksTest {
         Check.due("off by the cap", b.laid(60, NONE), 0);
         Check.due("the first has the least that is at the cap", b.laid(60, 0), 12);
         Check.due("the second the rest", b.laid(60, 1), 28);
+    }
+
+    /** What was found for more gaps does not count for fewer. */
+    private static void laidBehindALongerWord() {
+        for (int hairs : new int[] {35, 59, 60}) {
+            SignBoard b = free(4, 61, "cap 99");
+            Check.due("61 hairs for three", b.laid(0, NONE), 305);
+            Check.shop(b, "word 0 0 0;board " + (6 + hairs) + " margin 0");
+            Check.due(hairs + " hairs for two", b.laid(0, NONE), 5 * hairs);
+            Check.due("the first of " + hairs, b.laid(0, 0), hairs - 30);
+            Check.due("the second of " + hairs, b.laid(0, 1), 30);
+            Check.due("lays", b.lays(0), 5 * hairs);
+            Check.due("the first", b.gap(0, 0), hairs - 30);
+        }
     }
 
     private static SignBoard wide(int letters, int width, int hairs) {
