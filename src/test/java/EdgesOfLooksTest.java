@@ -13,6 +13,7 @@ public final class EdgesOfLooksTest {
         leastSpaceOfEachRow();
         placing();
         fitting();
+        fittingWithoutLetters();
         fewGaps();
         unevenWherever();
         offAboveAndBelow();
@@ -35,6 +36,7 @@ public final class EdgesOfLooksTest {
         droppedAtItsEnds();
         middleAtItsEnds();
         middleOfEachRow();
+        middleOfSqueezed();
         middleFarOff();
         readAtItsEnds();
         readWithoutGaps();
@@ -168,6 +170,20 @@ public final class EdgesOfLooksTest {
         Check.due("the shadow just fits", b.fits(), true);
         b.shadow(9);
         Check.due("the shadow is one too many", b.fits(), false);
+    }
+
+    /** Without a letter the first hair behind the last one is MARGIN (count 12): by that it fits, or does not. */
+    private static void fittingWithoutLetters() {
+        int[][] hairsMarginMost = {{10, 0, 9}, {10, 4, 2}, {10, 5, 0}, {10, 6, -1}, {17, 9, -1}, {18, 9, 0}, {19, 9, 1}};
+        for (int[] d : hairsMarginMost) {
+            SignBoard b = Check.board(BAR + ";board " + d[0] + " margin " + d[1]);
+            for (int shadow = 0; shadow <= 9; shadow++) {
+                b.shadow(shadow);
+                Check.due("no letter, " + d[0] + " hairs, margin " + d[1] + ", shadow " + shadow, b.fits(),
+                        shadow <= d[2]);
+            }
+            Check.due("it bears, " + d[0] + " hairs, margin " + d[1], b.bears(1, 0), d[2]);
+        }
     }
 
     // ---- promises 18, 19 and their like: with fewer than two gaps
@@ -689,6 +705,21 @@ public final class EdgesOfLooksTest {
             String left = "9".repeat(row) + "0" + "9".repeat(4 - row);
             SignBoard c = Check.board("sign open wide 12 left " + left + " right 00000;word 0;board 20 margin 0");
             Check.due("the middle with row " + row + " from the left", c.middle(false), 10);
+        }
+    }
+
+    /** Squeezing takes ink away ahead of what is white at the right; what is white at the left stays. */
+    private static void middleOfSqueezed() {
+        SignBoard left = Check.board("sign open wide 8 left 33333 right 00000;word 0;board 20 margin 0");
+        SignBoard both = Check.board("sign open wide 8 left 33333 right 22222;word 0;board 20 margin 9");
+        // ink from hair 3 to 8, 7, 6, 5, and from 9 + 3 to 9 + 6, 9 + 5, 9 + 4, and none
+        int[] ofLeft = {6, 5, 5, 4};
+        int[] ofBoth = {14, 13, 13, 0};
+        for (int hairs = 0; hairs <= 3; hairs++) {
+            left.squeezed(0, hairs);
+            both.squeezed(0, hairs);
+            Check.due("the middle behind a left of 3, squeezed by " + hairs, left.middle(false), ofLeft[hairs]);
+            Check.due("the middle between 3 and 2, squeezed by " + hairs, both.middle(false), ofBoth[hairs]);
         }
     }
 
