@@ -97,6 +97,17 @@ public final class EdgesOfLooksTest {
         b.shift(0, 0);
         Check.due("no space in a row", b.row(0, 1, false), 0);
         Check.due("the least space is that of any row", b.gap(0, 2), 0);
+        // both sides alone, with no distance, or none that the shadow leaves
+        SignBoard wide = Check.board("sign open wide 10 left 90000 right 00000;sign open wide 10 left 00000 right 90000;"
+                + "word 1 0;cap 17");
+        for (int distance = 0; distance <= 2; distance++) {
+            wide.shift(0, distance);
+            for (int shadow = 0; shadow <= 2; shadow++) {
+                wide.shadow(shadow);
+                Check.due("sides of 18 by cap 17, " + distance + " less " + shadow, wide.row(0, 0, false), 17);
+                Check.due("white of them", wide.gap(0, 1), 17 + 4 * Math.max(0, distance - shadow));
+            }
+        }
     }
 
     private static void spaceAndShadow() {

@@ -373,10 +373,14 @@ public final class EdgesOfTextsTest {
         wrongShop("fade 5", 0);
     }
 
-    /** 96 and 123 are beside a and z, 47 and 58 beside 0 and 9, 31 and 33 beside the blank. */
+    /** Bytes that are neither of words (a to z), of numbers, blanks, nor signs of a text: A to Z among them. */
     private static void bytesBesideWordsAndNumbers() {
-        for (int sign : new int[] {0, 9, 10, 31, 33, 47, 58, 64, 91, 95, 96, 123, 127, 128, 160, 255}) {
+        String right = "abcdefghijklmnopqrstuvwxyz0123456789 ;+<>()";
+        for (int sign = 0; sign < 256; sign++) {
             String wrong = String.valueOf((char) sign);
+            if (right.contains(wrong)) {
+                continue;
+            }
             wrongShop(wrong, 0);
             wrongShop(wrong + "cap 5", 0);
             wrongShop("ca" + wrong + " 5", 0);
